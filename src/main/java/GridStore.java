@@ -31,6 +31,7 @@ public final class GridStore {
     private static final long HOLE = Long.MIN_VALUE;
 
     private final Hosts hosts = new Hosts();
+    private final Totals totals = new Totals();
     /** Each grid as a window that shows all of it, so that grids and views are asked alike. */
     private final Window[] wholes = new Window[MOST_GRIDS];
     private final Window[] views = new Window[MOST_VIEWS];
@@ -183,13 +184,15 @@ public final class GridStore {
     public long sum(int of, int x, int y, int r) throws IndexOutOfBoundsException, IllegalArgumentException {
         Window window = windowOf(of);
         requireAround(window, x, y, r);
-        return window.sumOf(x - r, y - r, x + r, y + r);
+        totals.gather(window);
+        return totals.sumOf(x - r, y - r, x + r, y + r);
     }
 
     public int many(int of, int x, int y, int r) throws IndexOutOfBoundsException, IllegalArgumentException {
         Window window = windowOf(of);
         requireAround(window, x, y, r);
-        return window.numbersIn(x - r, y - r, x + r, y + r);
+        totals.gather(window);
+        return totals.numbersIn(x - r, y - r, x + r, y + r);
     }
 
     public int find(int of, int v) throws IndexOutOfBoundsException {
@@ -212,10 +215,11 @@ public final class GridStore {
             throw new IllegalArgumentException();
         }
         requireFit(source, source.wide, source.high, target);
+        totals.gather(source);
         int changed = 0;
         for (int y = 0; y < target.high; y++) {
             for (int x = 0; x < target.wide; x++) {
-                changed += target.write(x, y, source.sumCell(x - r, y - r, x + r, y + r));
+                changed += target.write(x, y, totals.sumCell(x - r, y - r, x + r, y + r));
             }
         }
         return changed;
@@ -227,10 +231,11 @@ public final class GridStore {
         requireFit(source, alongY ? source.wide : 1, alongY ? 1 : source.high, target);
         int right = alongY ? 0 : source.wide - 1;
         int down = alongY ? source.high - 1 : 0;
+        totals.gather(source);
         int changed = 0;
         for (int y = 0; y < target.high; y++) {
             for (int x = 0; x < target.wide; x++) {
-                changed += target.write(x, y, source.sumCell(x, y, x + right, y + down));
+                changed += target.write(x, y, totals.sumCell(x, y, x + right, y + down));
             }
         }
         return changed;
@@ -261,10 +266,11 @@ public final class GridStore {
             throw new IllegalArgumentException();
         }
         requireFit(source, (source.wide + k - 1) / k, (source.high + k - 1) / k, target);
+        totals.gather(source);
         int changed = 0;
         for (int y = 0; y < target.high; y++) {
             for (int x = 0; x < target.wide; x++) {
-                changed += target.write(x, y, source.meanCell(x * k, y * k, x * k + k - 1, y * k + k - 1));
+                changed += target.write(x, y, totals.meanCell(x * k, y * k, x * k + k - 1, y * k + k - 1));
             }
         }
         return changed;
@@ -315,9 +321,8 @@ public final class GridStore {
     private int allNumbers() {
         int numbers = 0;
         for (int g = 0; g < wholes.length; g++) {
-            Window whole = wholes[g];
-            if (whole != null) {
-                numbers += whole.numbersIn(0, 0, whole.wide - 1, whole.high - 1);
+            if (wholes[g] != null) {
+                numbers += wholes[g].grid.now.numbers();
             }
         }
         return numbers;
@@ -459,8 +464,9 @@ public final class GridStore {
         Cells(int wide, int high) {
             this.wide = wide;
             this.high = high;
-            this.cells = new long[wide * high];
-            Arrays.fill(this.cells, HOLE);
+            long[] holes = new long[wide * high];
+            Arrays.fill(holes, HOLE);
+            this.cells = holes;
         }
 
         Cells(Cells other) {
@@ -486,6 +492,14 @@ public final class GridStore {
             }
             cells[index] = cell;
             return true;
+        }
+
+        int numbers() {
+            int numbers = 0;
+            for (int i = 0; i < cells.length; i++) {
+                numbers += cells[i] == HOLE ? 0 : 1;
+            }
+            return numbers;
         }
 
         private int indexOf(int x, int y) {
@@ -699,44 +713,98 @@ public final class GridStore {
             return closed ? 0 : grid.write(gridX(x, y), gridY(x, y), cell);
         }
 
-        /** The sum of the numbers from (left, top) to (right, bottom), as far as there are cells. */
-        long sumOf(int left, int top, int right, int bottom) {
-            long total = 0;
-            for (int y = Math.max(top, 0); y <= Math.min(bottom, high - 1); y++) {
-                for (int x = Math.max(left, 0); x <= Math.min(right, wide - 1); x++) {
-                    long cell = cell(x, y);
-                    total += cell == HOLE ? 0 : cell;
-                }
-            }
-            return total;
-        }
-
-        int numbersIn(int left, int top, int right, int bottom) {
-            int numbers = 0;
-            for (int y = Math.max(top, 0); y <= Math.min(bottom, high - 1); y++) {
-                for (int x = Math.max(left, 0); x <= Math.min(right, wide - 1); x++) {
-                    numbers += cell(x, y) == HOLE ? 0 : 1;
-                }
-            }
-            return numbers;
-        }
-
-        long sumCell(int left, int top, int right, int bottom) {
-            int numbers = numbersIn(left, top, right, bottom);
-            return numbers == 0 ? HOLE : (int) sumOf(left, top, right, bottom);
-        }
-
-        long meanCell(int left, int top, int right, int bottom) {
-            int numbers = numbersIn(left, top, right, bottom);
-            return numbers == 0 ? HOLE : Math.floorDiv(sumOf(left, top, right, bottom), (long) numbers);
-        }
-
         int piecesUnder(int x, int y, int rectangleWide, int rectangleHigh) {
             int lastX = x + rectangleWide - 1;
             int lastY = y + rectangleHigh - 1;
             int across = gridX(lastX, lastY) / PIECE_SIDE - gridX(x, y) / PIECE_SIDE;
             int along = gridY(lastX, lastY) / PIECE_SIDE - gridY(x, y) / PIECE_SIDE;
             return (Math.abs(across) + 1) * (Math.abs(along) + 1);
+        }
+    }
+
+    /**
+     * The sums of the numbers of a window's rectangles, and how many they are. It holds them for the rectangles from
+     * the window's first cell on, since any other is told by four of these: an act asks for one at each cell.
+     */
+    private static final class Totals {
+        private final long[] sums = new long[(MOST_WIDE + 1) * (MOST_HIGH + 1)];
+        private final int[] numbers = new int[(MOST_WIDE + 1) * (MOST_HIGH + 1)];
+        private int wide = 0;
+        private int high = 0;
+
+        void gather(Window window) {
+            wide = window.wide;
+            high = window.high;
+            for (int x = 0; x <= wide; x++) {
+                put(x, 0, 0, 0);
+            }
+            for (int y = 1; y <= high; y++) {
+                gatherRow(window, y);
+            }
+        }
+
+        /** The rectangles that end above y, that is with row y - 1. */
+        private void gatherRow(Window window, int y) {
+            long rowSum = 0;
+            int rowNumbers = 0;
+            put(0, y, 0, 0);
+            for (int x = 1; x <= wide; x++) {
+                long cell = window.cell(x - 1, y - 1);
+                if (cell != HOLE) {
+                    rowSum += cell;
+                    rowNumbers++;
+                }
+                put(x, y, sumTo(x, y - 1) + rowSum, numbersTo(x, y - 1) + rowNumbers);
+            }
+        }
+
+        private void put(int x, int y, long sum, int present) {
+            int index = indexOf(x, y);
+            if (index >= 0 && index < sums.length && index < numbers.length) {
+                sums[index] = sum;
+                numbers[index] = present;
+            }
+        }
+
+        private long sumTo(int x, int y) {
+            int index = indexOf(x, y);
+            return index >= 0 && index < sums.length ? sums[index] : 0;
+        }
+
+        private int numbersTo(int x, int y) {
+            int index = indexOf(x, y);
+            return index >= 0 && index < numbers.length ? numbers[index] : 0;
+        }
+
+        private int indexOf(int x, int y) {
+            return x >= 0 && x <= wide && y >= 0 && y <= high ? y * (wide + 1) + x : NONE;
+        }
+
+        /** The sum of the numbers from cell (left, top) to cell (right, bottom), as far as there are cells. */
+        long sumOf(int left, int top, int right, int bottom) {
+            int fromX = Math.max(left, 0);
+            int fromY = Math.max(top, 0);
+            int toX = Math.min(right + 1, wide);
+            int toY = Math.min(bottom + 1, high);
+            return sumTo(toX, toY) - sumTo(fromX, toY) - sumTo(toX, fromY) + sumTo(fromX, fromY);
+        }
+
+        int numbersIn(int left, int top, int right, int bottom) {
+            int fromX = Math.max(left, 0);
+            int fromY = Math.max(top, 0);
+            int toX = Math.min(right + 1, wide);
+            int toY = Math.min(bottom + 1, high);
+            return numbersTo(toX, toY) - numbersTo(fromX, toY) - numbersTo(toX, fromY) + numbersTo(fromX, fromY);
+        }
+
+        long sumCell(int left, int top, int right, int bottom) {
+            int present = numbersIn(left, top, right, bottom);
+            return present == 0 ? HOLE : (int) sumOf(left, top, right, bottom);
+        }
+
+        long meanCell(int left, int top, int right, int bottom) {
+            int present = numbersIn(left, top, right, bottom);
+            return present == 0 ? HOLE : Math.floorDiv(sumOf(left, top, right, bottom), (long) present);
         }
     }
 }

@@ -199,6 +199,10 @@ public final class PromisesTest {
         store.grid(2, 1);
         store.view(1, 0, 0, 2, 1, 0, false);
         due("another grid's view", true, store.set(103, 1, 0, 77));
+        store.view(100, 0, 3, 3, 1, 0, false);
+        due("a low corner of a view", "12 8 4", cells(store, 104));
+        store.view(0, 3, 0, 1, 3, 0, false);
+        due("a far corner of a grid", "4 / 8 / 12", cells(store, 105));
         due("in that grid", ". 77", cells(store, 1));
     }
 
@@ -270,6 +274,12 @@ public final class PromisesTest {
         due("set in a lost piece", false, store.set(0, 0, 0, 1));
         due("is none", true, store.hole(0, 0, 0));
         due("set beside it", true, store.set(0, 8, 0, 1));
+        due("set under it", true, store.set(0, 0, 8, 1));
+        store.view(0, 0, 0, 48, 40, 1, false);
+        due("set in the lost piece, through a turned view", false, store.set(101, 39, 0, 1));
+        due("set beside it, through a turned view", true, store.set(101, 39, 8, 1));
+        due("set under it, through a turned view", true, store.set(101, 31, 0, 1));
+        due("set far from it, through a turned view", true, store.set(101, 0, 0, 1));
         store.lose(0, false);
         due("set where one host is there again", true, store.set(0, 0, 0, 1));
     }
@@ -412,6 +422,11 @@ public final class PromisesTest {
         }
         store.grid(4, 1);
         refused("back to another grid's layer", NO_SUCH_PLACE, () -> store.back(1, 0));
+        int high = addGrid(store, "1 / 2 / 3");
+        store.keep(high);
+        store.fill(high, 0, 0, 1, 3, 9);
+        due("back in a high grid", 3, store.back(high, 0));
+        due("what was in it", "1 / 2 / 3", cells(store, high));
         store.view(0, 0, 0, 4, 1, 0, false);
         refused("back of a view", NO_SUCH_PLACE, () -> store.back(100, 0));
         refused("back of nothing", NO_SUCH_PLACE, () -> store.back(-1, 0));
@@ -433,9 +448,17 @@ public final class PromisesTest {
         for (int[] cell : none) {
             refused("was in no cell", NO_SUCH_PLACE, () -> store.was(0, 0, cell[0], cell[1]));
         }
+        int high = addGrid(store, "1 / 2 / 3");
+        int wide = addGrid(store, "1 2 3");
+        store.keep(high);
+        store.keep(wide);
+        due("was in a high grid", 3, store.was(high, 0, 0, 2));
+        due("was in a wide grid", 3, store.was(wide, 0, 2, 0));
+        refused("was in no cell of a high grid", NO_SUCH_PLACE, () -> store.was(high, 0, 2, 0));
+        refused("was in no cell of a wide grid", NO_SUCH_PLACE, () -> store.was(wide, 0, 0, 2));
         store.view(0, 0, 0, 2, 2, 0, false);
         refused("was in a view", NO_SUCH_PLACE, () -> store.was(100, 0, 0, 0));
-        refused("was in nothing", NO_SUCH_PLACE, () -> store.was(1, 0, 0, 0));
+        refused("was in nothing", NO_SUCH_PLACE, () -> store.was(3, 0, 0, 0));
     }
 
     private static void differ() {
@@ -467,7 +490,7 @@ public final class PromisesTest {
     }
 
     private static void lose() {
-        GridStore store = holding("1 2", "3");
+        GridStore store = holding("1 2", "3", "1 / 2 / 3");
         due("lose", true, store.lose(0, true));
         due("lose again", false, store.lose(0, true));
         due("one host is there still", "1 2", cells(store, 0));
@@ -475,6 +498,7 @@ public final class PromisesTest {
         due("lose the other one", true, store.lose(1, true));
         due("a lost piece", ". .", cells(store, 0));
         due("in another grid", ".", cells(store, 1));
+        due("in a high grid", ". / . / .", cells(store, 2));
         due("a layer keeps it", 2, store.was(0, 0, 1, 0));
         due("no number comes back there", 0, store.back(0, 0));
         due("there again", true, store.lose(0, false));
@@ -521,7 +545,16 @@ public final class PromisesTest {
             due("many by " + r, side * side - 1, store.many(0, 10, 10, r));
             due("sum by " + r, 1010L * (side * side - 1), store.sum(0, 10, 10, r));
         }
+        due("sum around a cell to the right", 9L * 517, store.sum(0, 17, 5, 1));
+        due("sum around a cell below", 9L * 1702, store.sum(0, 2, 17, 1));
+        due("many at the right rim", 6, store.many(0, 19, 5, 1));
+        due("many at the lower rim", 6, store.many(0, 5, 19, 1));
+        due("many near the hole", 8, store.many(0, 11, 9, 1));
+        due("many where x and y are far apart", 9, store.many(0, 3, 12, 1));
+        due("many where x and y are far apart", 25, store.many(0, 16, 7, 2));
         due("many in a corner", 4, store.many(0, 0, 0, 1));
+        due("many in the right corner", 4, store.many(0, 19, 0, 1));
+        due("many in the lower corner", 4, store.many(0, 0, 19, 1));
         due("sum in a corner", 0L + 1 + 100 + 101, store.sum(0, 0, 0, 1));
         due("many in the other corner", 9, store.many(0, 19, 19, 2));
         due("sum in the other corner", 9L * 1818, store.sum(0, 19, 19, 2));
@@ -560,11 +593,22 @@ public final class PromisesTest {
         due("view", ". 4 1 / 7 9 . / -3 5 5", cells(store, 100));
         due("find in a view", 100, store.find(100, 5));
         due("find in a view, behind a hole", 1, store.find(100, -9));
+        store.view(0, 1, 1, 1, 1, 0, false);
+        due("find in a view of one cell", 0, store.find(101, 9));
+        store.dig(101, 0, 0);
+        due("find in a view alone", -1, store.find(101, -9));
+        store.set(101, 0, 0, 9);
         addGrid(store, ". .");
         due("find in holes", -1, store.find(1, Integer.MIN_VALUE));
-        store.grid(48, 40);
-        store.set(2, 47, 39, Integer.MIN_VALUE);
-        due("find in the last cell", 3947, store.find(2, Integer.MIN_VALUE));
+        int wide = addGrid(store, ". . . 0");
+        due("find of 0", 3, store.find(wide, 0));
+        int tall = addGrid(store, ". / . / . / -5");
+        due("find in the last row", 300, store.find(tall, -5));
+        store.dig(wide, 3, 0);
+        due("find looks at each cell that there is alone", -1, store.find(wide, -5));
+        int great = store.grid(48, 40);
+        store.set(great, 47, 39, Integer.MIN_VALUE);
+        due("find in the last cell", 3947, store.find(great, Integer.MIN_VALUE));
         for (int of : NUMBERS_OF_NOTHING) {
             refused("find in nothing", NO_SUCH_PLACE, () -> store.find(of, 0));
         }
@@ -588,6 +632,7 @@ public final class PromisesTest {
         addGrid(store, ". .");
         due("slide of much", 2, store.slide(3, 1, 4));
         due("is cut to 32 bits", "-2147483648 -2147483648", cells(store, 4));
+        due("also for sums", -4294967296L, store.sum(4, 0, 0, 1));
         for (int r : new int[] {-1, 5, Integer.MIN_VALUE, Integer.MAX_VALUE}) {
             refused("slide by none", WRONG, () -> store.slide(0, r, 1));
             refused("slide by none into nothing", NO_SUCH_PLACE, () -> store.slide(0, r, 5));
@@ -613,6 +658,18 @@ public final class PromisesTest {
         due("fold along y", 2, store.fold(0, true, 2));
         due("sums of columns", "-2147483648 2 5", cells(store, 2));
         due("fold again", 0, store.fold(0, true, 2));
+        int wideGrid = addGrid(store, "1 2 3 4 5");
+        int tallGrid = addGrid(store, "1 / 2 / 3 / 4 / 5");
+        int one = addGrid(store, ".");
+        due("fold of a long row", 1, store.fold(wideGrid, false, one));
+        due("its sum", 15, store.get(one, 0, 0));
+        store.set(one, 0, 0, 0);
+        due("fold of a high column", 1, store.fold(tallGrid, true, one));
+        due("its sum", 15, store.get(one, 0, 0));
+        int row = addGrid(store, ". . . . .");
+        due("fold of a row along y", 5, store.fold(wideGrid, true, row));
+        due("is the row", "1 2 3 4 5", cells(store, row));
+        due("fold of a column along x", 0, store.fold(tallGrid, false, addGrid(store, "1 / 2 / 3 / 4 / 5")));
         store.view(0, 0, 0, 3, 3, 1, false);
         due("fold of a view", 3, store.fold(100, false, 1));
         due("sums of its rows", "-2147483648 / 2 / 5", cells(store, 1));
@@ -621,8 +678,7 @@ public final class PromisesTest {
         refused("fold into itself", WRONG, () -> store.fold(1, false, 1));
         store.view(2, 0, 0, 3, 1, 2, false);
         refused("fold of a view into its grid", WRONG, () -> store.fold(101, true, 2));
-        int wide = addGrid(store, "1 2 3 4");
-        refused("fold into a longer row", WRONG, () -> store.fold(0, true, wide));
+        refused("fold into a longer row", WRONG, () -> store.fold(0, true, wideGrid));
         refused("fold into a view", NO_SUCH_PLACE, () -> store.fold(0, true, 101));
         for (int of : NUMBERS_OF_NOTHING) {
             refused("fold of nothing", NO_SUCH_PLACE, () -> store.fold(of, true, 2));
@@ -645,6 +701,7 @@ public final class PromisesTest {
         GridStore store = holding("2147483647 -2147483648 3 -5", "1 -1 3 -6", "0 0 0 0");
         due("join of much", 4, store.join(0, 1, 0, 2));
         due("goes round", "-2147483648 2147483647 6 -11", cells(store, 2));
+        due("also for sums", -2147483648L, store.sum(2, 0, 0, 0));
         store.join(0, 1, 1, 2);
         due("the lesser", "1 -2147483648 3 -6", cells(store, 2));
         due("join of one with itself", 4, store.join(1, 1, 0, 2));
@@ -652,6 +709,14 @@ public final class PromisesTest {
         store.view(0, 0, 0, 4, 1, 0, true);
         store.join(100, 1, 2, 2);
         due("join of a view", "-5 3 -2147483648 2147483647", cells(store, 2));
+        GridStore high = holding("0 / . / 0 / 5", "7 / 0 / . / 6", ". / . / . / .");
+        String[] toldHigh = {"7 / 0 / 0 / 11", "0 / . / . / 5", "0 / 0 / 0 / 5", ". / . / 0 / ."};
+        for (int how = 0; how < 4; how++) {
+            high.join(0, 1, how, 2);
+            due("join with 0, how " + how, toldHigh[how], cells(high, 2));
+        }
+        high.join(1, 0, 1, 2);
+        due("the lesser, the other way", "0 / . / . / 5", cells(high, 2));
     }
 
     private static void joinRefusals() {
@@ -701,9 +766,12 @@ public final class PromisesTest {
         addGrid(store, ". . / . . / . .");
         due("coarse of a view", 6, store.coarse(100, 2, 6));
         due("its means", "2 1 / -2 -1 / 9 7", cells(store, 6));
+        store.grid(5, 3);
+        refused("coarse by 1 into what is as great", WRONG, () -> store.coarse(0, 1, 7));
+        refused("coarse by 9 into one cell", WRONG, () -> store.coarse(0, 9, 3));
         for (int k : new int[] {-1, 0, 1, 9, Integer.MIN_VALUE, Integer.MAX_VALUE}) {
             refused("coarse by none", WRONG, () -> store.coarse(0, k, 1));
-            refused("coarse by none into nothing", NO_SUCH_PLACE, () -> store.coarse(0, k, 7));
+            refused("coarse by none into nothing", NO_SUCH_PLACE, () -> store.coarse(0, k, 8));
         }
         refused("coarse of other sizes", WRONG, () -> store.coarse(0, 3, 1));
         refused("coarse into itself", WRONG, () -> store.coarse(3, 2, 3));
@@ -712,9 +780,7 @@ public final class PromisesTest {
         refused("coarse into a view", NO_SUCH_PLACE, () -> store.coarse(0, 8, 101));
         for (int of : NUMBERS_OF_NOTHING) {
             refused("coarse of nothing", NO_SUCH_PLACE, () -> store.coarse(of, 2, 1));
-            if (of != 8) {
-                refused("coarse into nothing", NO_SUCH_PLACE, () -> store.coarse(0, 2, of));
-            }
+            refused("coarse into nothing", NO_SUCH_PLACE, () -> store.coarse(0, 2, of));
         }
     }
 
@@ -725,11 +791,14 @@ public final class PromisesTest {
         due("read of a cell", 1, store.read(0, 47, 39, 1, 1));
         due("read of a piece", 1, store.read(0, 8, 16, 8, 8));
         due("read over a rim", 4, store.read(0, 7, 15, 2, 2));
+        due("read to the right", 2, store.read(0, 35, 0, 10, 3));
+        due("read below over a rim", 2, store.read(0, 1, 30, 3, 3));
         due("read of wide pieces", 3, store.read(0, 7, 0, 10, 8));
         due("read of high pieces", 3, store.read(0, 0, 7, 8, 10));
         store.view(0, 7, 0, 9, 20, 1, true);
         due("read of a view", 6, store.read(100, 0, 0, 20, 9));
         due("read of a view's cell", 1, store.read(100, 0, 0, 1, 1));
+        due("read of a view's far part", 2, store.read(100, 12, 3, 8, 2));
         due("read of a view's row", 2, store.read(100, 0, 0, 1, 9));
         due("read of a view's column", 3, store.read(100, 0, 0, 20, 1));
         store.view(100, 0, 0, 20, 9, 1, false);
@@ -765,6 +834,17 @@ public final class PromisesTest {
         for (int what : new int[] {-1, 9, Integer.MIN_VALUE, Integer.MAX_VALUE}) {
             due("count of nothing", -1, store.count(what));
         }
+        for (int host = 0; host < 5; host += 2) {
+            due("a host is lost", true, store.lose(host, true));
+            due("it is counted", 2, store.count(3));
+            store.lose(host, false);
+        }
+        due("a high grid", 3, addGrid(store, "1 / 2 / 3"));
+        due("its numbers are counted", 124, store.count(4));
+        store.fill(3, 0, 0, 1, 3, 1);
+        store.dig(3, 0, 0);
+        store.dig(3, 0, 1);
+        store.dig(3, 0, 2);
         store.dig(0, 8, 0);
         store.lose(3, false);
         due("count of numbers after dig", 120, store.count(4));
