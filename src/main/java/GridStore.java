@@ -727,27 +727,22 @@ public final class GridStore {
      * the window's first cell on, since any other is told by four of these: an act asks for one at each cell.
      */
     private static final class Totals {
-        private final long[] sums = new long[(MOST_WIDE + 1) * (MOST_HIGH + 1)];
-        private final int[] numbers = new int[(MOST_WIDE + 1) * (MOST_HIGH + 1)];
+        private final long[] sums = new long[MOST_WIDE * MOST_HIGH];
+        private final int[] numbers = new int[MOST_WIDE * MOST_HIGH];
         private int wide = 0;
         private int high = 0;
 
         void gather(Window window) {
             wide = window.wide;
             high = window.high;
-            for (int x = 0; x <= wide; x++) {
-                put(x, 0, 0, 0);
-            }
             for (int y = 1; y <= high; y++) {
                 gatherRow(window, y);
             }
         }
 
-        /** The rectangles that end above y, that is with row y - 1. */
         private void gatherRow(Window window, int y) {
             long rowSum = 0;
             int rowNumbers = 0;
-            put(0, y, 0, 0);
             for (int x = 1; x <= wide; x++) {
                 long cell = window.cell(x - 1, y - 1);
                 if (cell != HOLE) {
@@ -766,6 +761,7 @@ public final class GridStore {
             }
         }
 
+        /** The sum of the first x columns' first y cells. */
         private long sumTo(int x, int y) {
             int index = indexOf(x, y);
             return index >= 0 && index < sums.length ? sums[index] : 0;
@@ -777,7 +773,7 @@ public final class GridStore {
         }
 
         private int indexOf(int x, int y) {
-            return x >= 0 && x <= wide && y >= 0 && y <= high ? y * (wide + 1) + x : NONE;
+            return x >= 1 && x <= wide && y >= 1 && y <= high ? (y - 1) * wide + x - 1 : NONE;
         }
 
         /** The sum of the numbers from cell (left, top) to cell (right, bottom), as far as there are cells. */

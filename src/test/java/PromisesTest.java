@@ -562,6 +562,17 @@ public final class PromisesTest {
         due("many in a view", 6, store.many(100, 0, 0, 9));
         due("sum in a view", 1515L + 1815, store.sum(100, 0, 0, 9));
         due("sum in a view's corner", 604L + 504 + 605 + 505, store.sum(100, 0, 0, 1));
+        int full = store.grid(48, 40);
+        due("fill of all", 1920, store.fill(full, 0, 0, 48, 40, 3));
+        due("sum in the last corner of the greatest grid", 3L * 100, store.sum(full, 47, 39, 9));
+        due("many in it", 100, store.many(full, 47, 39, 9));
+        int narrow = addGrid(store, "5 / 5 / 5");
+        due("sum in a narrow grid", 15L, store.sum(narrow, 0, 1, 1));
+        due("sum in a wide grid behind it", 12L, store.sum(full, 0, 0, 1));
+        due("many in it", 4, store.many(full, 0, 0, 1));
+        store.view(full, 0, 0, 48, 40, 3, true);
+        due("sum in the last corner of the greatest grid, turned", 3L * 100, store.sum(101, 39, 47, 9));
+        due("many in it", 6, store.many(101, 39, 20, 1));
         int great = addGrid(store, "2147483647 2147483647 . / 2147483647 -2147483648 .");
         due("sum of 64 bits", 2147483647L * 3 - 2147483648L, store.sum(great, 0, 0, 1));
         due("sum less than 0", -2147483648L, store.sum(great, 1, 1, 0));
