@@ -1,73 +1,6 @@
-import java.util.NoSuchElementException;
-
 /** Each promise of the document: ordinary inputs, the edges that it names, and wrong inputs. */
-public final class PromisesTest {
-    private static final Class<?> NO_SUCH_PLACE = IndexOutOfBoundsException.class;
-    private static final Class<?> WRONG = IllegalArgumentException.class;
-    private static final Class<?> TOO_MANY = UnsupportedOperationException.class;
-    private static final Class<?> NO_NUMBER = NoSuchElementException.class;
+public final class PromisesTest extends Checks {
     private static final int[] NUMBERS_OF_NOTHING = {Integer.MIN_VALUE, -1, 8, 99, 112, Integer.MAX_VALUE};
-
-    private static int checks = 0;
-    private static int wrong = 0;
-
-    private interface Call {
-        Object answer();
-    }
-
-    private static void due(String what, Object want, Object got) {
-        checks++;
-        if (!want.equals(got)) {
-            wrong++;
-            System.out.println(what + " answered " + got + ", due is " + want);
-        }
-    }
-
-    private static void refused(String what, Class<?> want, Call call) {
-        Object got;
-        try {
-            got = call.answer();
-        } catch (RuntimeException e) {
-            got = e.getClass();
-        }
-        due(what, want, got);
-    }
-
-    /** The cells of a grid or view, row by row, a hole as a dot. */
-    private static String cells(GridStore store, int of) {
-        StringBuilder text = new StringBuilder();
-        for (int y = 0; y < store.size(of, true); y++) {
-            for (int x = 0; x < store.size(of, false); x++) {
-                text.append(store.hole(of, x, y) ? "." : String.valueOf(store.get(of, x, y)));
-                text.append(x + 1 < store.size(of, false) ? " " : "");
-            }
-            text.append(y + 1 < store.size(of, true) ? " / " : "");
-        }
-        return text.toString();
-    }
-
-    /** A store whose grid 0 is written as cells() tells it. */
-    private static GridStore holding(String... grids) {
-        GridStore store = new GridStore();
-        for (String text : grids) {
-            addGrid(store, text);
-        }
-        return store;
-    }
-
-    private static int addGrid(GridStore store, String text) {
-        String[] rows = text.split(" / ");
-        int grid = store.grid(rows[0].split(" ").length, rows.length);
-        for (int y = 0; y < rows.length; y++) {
-            String[] row = rows[y].split(" ");
-            for (int x = 0; x < row.length; x++) {
-                if (!row[x].equals(".")) {
-                    store.set(grid, x, y, Integer.parseInt(row[x]));
-                }
-            }
-        }
-        return grid;
-    }
 
     public static void main(String[] args) {
         newObject();
@@ -98,10 +31,7 @@ public final class PromisesTest {
         read();
         count();
         lostTargets();
-        System.out.println("PromisesTest: " + checks + " checks, " + wrong + " wrong");
-        if (wrong != 0) {
-            System.exit(1);
-        }
+        finish("PromisesTest");
     }
 
     private static void newObject() {
