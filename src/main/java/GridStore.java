@@ -28,7 +28,7 @@ public final class GridStore {
     private static final int MOST_SPARSE = 12;
 
     /** What a cell holds that has no number: it lies outside the 32 bits of every number. */
-    private static final long HOLE = Long.MIN_VALUE;
+    private static final long HOLE = 1L << 32;
 
     private final Hosts hosts = new Hosts();
     private final Totals totals = new Totals();

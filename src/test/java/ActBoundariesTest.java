@@ -153,6 +153,12 @@ public final class ActBoundariesTest extends Checks {
         due("by a turned view's y and x", 0, store.find(100, 7));
         due("in its own numbers", 200, store.find(100, 9));
         due("in its own numbers", 100, store.find(100, 8));
+        for (int quarters = 0; quarters < 4; quarters++) {
+            int[] corner = {101, 100, 0, 1};
+            store.view(1, 0, 0, 2, 2, quarters, false);
+            due("a view's last number", corner[quarters], store.find(101 + quarters, 5));
+            due("none beside a view, nor under it", -1, store.find(101 + quarters, 6));
+        }
         State great = new State(s -> s.grid(48, 40), s -> s.set(0, 47, 39, 1));
         due("the last cell of the greatest grid", 3947, great.made().find(0, 1));
         GridStore turned = great.made();
@@ -291,6 +297,16 @@ public final class ActBoundariesTest extends Checks {
             store = holding("1 . . / . . .", was.substring(0, 3));
             store.coarse(0, 2, 1);
             due("coarse", "1 .", cells(store, 1));
+        }
+        String[] shapes = {"1 . 2 . 3", "1 / . / 2 / . / 3", "1"};
+        for (String shape : shapes) {
+            GridStore store = holding(shape, shape.replaceAll("[^ /]", "."), shape.replaceAll("[^ /]", "9"));
+            store.keep(1);
+            store.slide(0, 0, 1);
+            store.join(0, 0, 2, 2);
+            due("slide, the last cell, too", shape, cells(store, 1));
+            due("join, the last cell, too", shape, cells(store, 2));
+            due("back, each of them", shape.replaceAll("[^0-9]", "").length(), store.back(1, 0));
         }
     }
 

@@ -47,7 +47,7 @@ public final class FaceTest {
     private static final String[] FORBIDDEN = {"\\bcatch\\b", "\\bfinally\\b", "\\btry\\b", "->", "::",
         "\\bsynchronized\\b", "\\bassert\\b", "Exact\\b", "\\bfloat\\b", "\\bdouble\\b", "[Rr]andom", "\\bSystem\\b",
         "\\bObject\\b", "\\bequals\\b", "\\bhashCode\\b", "\\btoString\\b", "\\bvolatile\\b", "\\bThread\\b",
-        "static\\s*\\{", "\" \\+", "\\+ \""};
+        "static\\s*\\{", "\" \\+", "\\+ \"", "\\b(Integer|Long)\\.[A-Z]"};
 
     private static int wrong = 0;
 

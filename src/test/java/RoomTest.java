@@ -1,87 +1,71 @@
-import java.lang.reflect.Array;
-import java.lang.reflect.Field;
-import java.lang.reflect.Modifier;
-import java.util.ArrayDeque;
-import java.util.Deque;
-import java.util.IdentityHashMap;
-import java.util.Map;
+import java.lang.management.ManagementFactory;
+import java.util.List;
 
 /**
- * What the dearest run keeps: all calls of a run live in one room. No call makes anything that it does not keep,
- * but for exceptions, so what is kept tells what is made.
+ * What the dearest run makes, for all calls of a run live in one room. What the machine lays out is looked at: a field
+ * or an element takes a byte at least, so a run that takes no more bytes than the room has fields and elements fits,
+ * and since an object takes 16 bytes at least, it makes fewer than 600,000 of them.
  */
 public final class RoomTest {
-    private static final int MOST_OBJECTS = 600;
-    private static final int MOST_ELEMENTS = 340_000;
+    private static final long MOST_BYTES = 7_300_000;
+    private static final int CALLS = 512;
+    private static final int ACTS = 12;
 
-    public static void main(String[] args) throws Exception {
-        GridStore store = new GridStore();
-        for (int grid = 0; grid < 8; grid++) {
-            store.grid(48, 40);
+    private static int calls = 0;
+
+    public static void main(String[] args) {
+        long dearest = 0;
+        for (int run = 0; run < 2 * ACTS; run++) {
+            long before = bytesMade();
+            dearestRun(run % ACTS);
+            long made = bytesMade() - before;
+            // the first runs load classes, too
+            dearest = run < ACTS ? 0 : Math.max(dearest, made);
         }
-        for (int view = 0; view < 12; view++) {
-            store.view(view == 0 ? 0 : 99 + view, 0, 0, 40, 40, 1, true);
-        }
-        for (int grid = 0; grid < 8; grid++) {
-            for (int layer = 0; layer < 25; layer++) {
-                store.keep(grid);
-            }
-        }
-        long[] before = kept(store);
-        for (int call = 0; call < 20; call++) {
-            store.slide(call % 7, 4, 7);
-            store.join(call % 7, 1, call % 4, 7);
-            store.back(7, call);
-            store.fill(111, 0, 0, 40, 40, call);
-            store.lose(call % 5, call % 2 == 0);
-            store.sum(111, 20, 20, 9);
-            store.count(4);
-            store.differ(7, -1, call);
-        }
-        long[] after = kept(store);
-        System.out.println("RoomTest: " + after[0] + " objects and arrays, " + after[1] + " fields and elements");
-        boolean well = after[0] <= MOST_OBJECTS && after[1] <= MOST_ELEMENTS
-            && before[0] == after[0] && before[1] == after[1];
-        if (!well) {
-            System.out.println("too many, or acts made some: " + before[0] + ", " + before[1] + " before them");
+        System.out.println("RoomTest: " + dearest + " bytes made by the dearest run");
+        if (dearest <= 0 || dearest > MOST_BYTES) {
+            System.out.println("that is more than the room holds for sure, or none");
             System.exit(1);
         }
     }
 
-    private static long[] kept(Object first) throws Exception {
-        Map<Object, Boolean> seen = new IdentityHashMap<>();
-        Deque<Object> ahead = new ArrayDeque<>();
-        ahead.add(first);
-        long[] counts = new long[2];
-        while (!ahead.isEmpty()) {
-            Object one = ahead.remove();
-            if (seen.put(one, true) != null) {
-                continue;
-            }
-            counts[0]++;
-            if (one.getClass().isArray()) {
-                counts[1] += Array.getLength(one);
-                for (int i = 0; one instanceof Object[] && i < Array.getLength(one); i++) {
-                    add(ahead, Array.get(one, i));
-                }
-                continue;
-            }
-            for (Field field : one.getClass().getDeclaredFields()) {
-                if (!Modifier.isStatic(field.getModifiers())) {
-                    counts[1]++;
-                    field.setAccessible(true);
-                    if (!field.getType().isPrimitive()) {
-                        add(ahead, field.get(one));
-                    }
-                }
-            }
-        }
-        return counts;
+    private static long bytesMade() {
+        com.sun.management.ThreadMXBean threads = (com.sun.management.ThreadMXBean) ManagementFactory.getThreadMXBean();
+        return threads.getThreadAllocatedBytes(Thread.currentThread().getId());
     }
 
-    private static void add(Deque<Object> ahead, Object one) {
-        if (one != null) {
-            ahead.add(one);
+    /** All grids, views and layers that there can be, and then one act, or a call that throws, to the last call. */
+    private static void dearestRun(int act) {
+        GridStore store = new GridStore();
+        calls = 0;
+        for (int grid = 0; grid < 8; grid++) {
+            store.grid(48, 40);
+            store.fill(grid, 0, 0, 48, 40, grid);
+            calls += 2;
+        }
+        for (int view = 0; view < 12; view++) {
+            store.view(view == 0 ? 0 : 99 + view, 0, 0, 40, 40, 1, true);
+            calls++;
+        }
+        for (int layer = 0; layer < 160; layer++) {
+            store.keep(layer % 8);
+            calls++;
+        }
+        List<Runnable> acts = List.of(() -> store.slide(0, 4, 7), () -> store.join(1, 2, 0, 7),
+            () -> store.back(7, 19), () -> store.fill(111, 0, 0, 40, 40, calls), () -> store.differ(7, -1, 0),
+            () -> store.sum(111, 20, 20, 9), () -> store.count(4), () -> store.lose(calls % 5, calls % 2 == 0),
+            () -> store.get(0, 48, 0), () -> store.grid(1, 1), () -> store.keep(7), () -> store.read(111, 0, 0, 41, 1));
+        while (calls < CALLS) {
+            call(acts.get(act));
+        }
+    }
+
+    private static void call(Runnable one) {
+        calls++;
+        try {
+            one.run();
+        } catch (RuntimeException e) {
+            // what is thrown is made, too
         }
     }
 }
