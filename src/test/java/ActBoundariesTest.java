@@ -352,6 +352,8 @@ public final class ActBoundariesTest extends Checks {
         for (int g = 0; g < 3; g++) {
             store.slide(g, 1, 3);
             due("just past 32 bits", told[g], store.get(3, 1, 0));
+            due("is that number in sums, too", (long) told[g], store.sum(3, 1, 0, 0));
+            due("slide again", 0, store.slide(g, 1, 3));
             due("is a number", false, store.hole(3, 1, 0));
         }
         GridStore within = holding("2147483646 . 1 .", ". . . .");
@@ -417,6 +419,9 @@ public final class ActBoundariesTest extends Checks {
         due("rows", "-2147483648 / 2147483647 / 2147483647 / 0", cells(store, 1));
         store.fold(0, true, 2);
         due("columns", "-3 -2147483647", cells(store, 2));
+        due("in sums, too", -2147483650L, store.sum(2, 0, 0, 1));
+        due("rows, in sums, too", -1L, store.sum(1, 0, 0, 1));
+        due("fold again", 0, store.fold(0, false, 1) + store.fold(0, true, 2));
     }
 
     private static void joinAlike() {
@@ -457,6 +462,12 @@ public final class ActBoundariesTest extends Checks {
         GridStore store = holding(first, second, first.replaceAll("[^ /]+", "9"), first.replaceAll("[^ /]+", "."));
         store.join(0, 1, how, 2);
         due(first + " and " + second, want, cells(store, 2));
+        long sum = 0;
+        for (String number : want.split(" ")) {
+            sum += number.equals(".") ? 0 : Long.parseLong(number);
+        }
+        due("in sums, too", sum, store.sum(2, 0, 0, 9));
+        due(first + " and " + second + " again", 0, store.join(0, 1, how, 2));
         store.join(0, 1, how, 3);
         due(first + " and " + second + " into holes", want, cells(store, 3));
         due("what is given stays", first + " and " + second, cells(store, 0) + " and " + cells(store, 1));
